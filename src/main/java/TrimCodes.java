@@ -5,8 +5,8 @@
  * <p>The least cost is found by package-merge. A code of length l is bought as
  * l coins, one for each of the depths 1 to l, each at the letter's weight; a
  * coin of depth d is worth 2 to the -d, and two of one depth can pass for one
- * of the depth above. N codes have room just when their coins are worth N - 1,
- * which 2N - 2 coins of depth 1 are: the cheapest of these make the cheapest
+ * of the depth above. N codes have room just when their coins are worth at least
+ * N - 1, as 2N - 2 coins of depth 1 are: the cheapest of these make the cheapest
  * code.
  */
 public final class TrimCodes {
