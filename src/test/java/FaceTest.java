@@ -5,7 +5,7 @@ import java.lang.reflect.Modifier;
 import java.util.Arrays;
 import java.util.List;
 
-/** "The public face", and rule 1 of LANGUAGE.md: nothing else can be seen from outside. */
+/** "The public face", and rules 1 and 6 of LANGUAGE.md: nothing else is seen from outside, and nothing thrown. */
 public final class FaceTest {
     private static final Check CHECK = new Check("FaceTest");
 
@@ -22,7 +22,32 @@ public final class FaceTest {
         CHECK.due("one constructor, public TrimCodes()", made.length == 1 && made[0].toString().equals("public TrimCodes()"));
         methods();
         fields();
+        nothingIsThrown();
         CHECK.end();
+    }
+
+    /** The document names no exception, so no argument may bring one forth. */
+    private static void nothingIsThrown() {
+        int[] edges = {-2147483648, -2147483647, -33, -32, -31, -1, 0, 1, 15, 16, 31, 32, 2147483646, 2147483647};
+        for (int k : edges) {
+            for (int i : edges) {
+                CHECK.due("letters(" + k + "), limit(" + i + "), weight(" + i + ", " + k + ", ..), least() answer",
+                    answers(k, i));
+            }
+        }
+    }
+
+    private static boolean answers(int k, int i) {
+        TrimCodes codes = new TrimCodes();
+        try {
+            codes.letters(k);
+            codes.limit(i);
+            codes.weight(i, k, k, k, k);
+            codes.least();
+            return true;
+        } catch (RuntimeException thrown) {
+            return false;
+        }
     }
 
     private static void methods() {

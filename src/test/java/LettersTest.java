@@ -17,9 +17,52 @@ public final class LettersTest {
             codes.letters(due[0]);
             CHECK.due("letters(" + due[0] + "); N", Probe.letterCount(codes), due[1]);
         }
+        moduloFromTheLeastToTheGreatest();
+        formerLettersDoNotMatter();
         firstLettersCount();
+        roomComesAndGoes();
         restStays();
         CHECK.end();
+    }
+
+    /** Runs of k across 0, both ends of the ints and the middle of each half. */
+    private static void moduloFromTheLeastToTheGreatest() {
+        long[] middles = {0, 2147483647L, -2147483648L, 1073741824L, -1073741824L};
+        for (long middle : middles) {
+            for (long k = middle - 40; k <= middle + 40; k++) {
+                TrimCodes codes = new TrimCodes();
+                codes.letters((int) k);
+                long withoutHighestBit = Math.floorMod(k, 2147483648L);
+                CHECK.due("letters(" + (int) k + "); N", Probe.letterCount(codes), 2 + withoutHighestBit % 15);
+            }
+        }
+    }
+
+    private static void formerLettersDoNotMatter() {
+        for (int former = 0; former < 15; former++) {
+            for (int k = 0; k < 15; k++) {
+                TrimCodes codes = new TrimCodes();
+                codes.letters(former);
+                codes.letters(k);
+                CHECK.due("letters(" + former + "), letters(" + k + "); N", Probe.letterCount(codes), k + 2);
+            }
+        }
+    }
+
+    /** Eight words of three bits: seven or eight letters have room, nine have not. */
+    private static void roomComesAndGoes() {
+        TrimCodes codes = new TrimCodes();
+        codes.limit(3);
+        codes.weight(0, 1, 1, 1, 1);
+        codes.weight(4, 1, 1, 1, 1);
+        codes.letters(6);
+        CHECK.due("LIMIT 3, letters(6); least()", codes.least(), 24);
+        codes.letters(7);
+        CHECK.due("LIMIT 3, letters(7); least()", codes.least(), -1);
+        codes.letters(14);
+        CHECK.due("LIMIT 3, letters(14); least()", codes.least(), -1);
+        codes.letters(5);
+        CHECK.due("LIMIT 3, letters(5); least()", codes.least(), 20);
     }
 
     private static void firstLettersCount() {

@@ -18,8 +18,47 @@ public final class LimitTest {
             codes.limit(due[0]);
             CHECK.due("limit(" + due[0] + "); LIMIT", Probe.limit(codes), due[1]);
         }
+        moduloFromTheLeastToTheGreatest();
+        formerLimitDoesNotMatter();
+        zeroHasNoRoomForAny();
         restStays();
         CHECK.end();
+    }
+
+    /** Runs of k across 0, both ends of the ints and the middle of each half. */
+    private static void moduloFromTheLeastToTheGreatest() {
+        long[] middles = {0, 2147483647L, -2147483648L, 1073741824L, -1073741824L};
+        for (long middle : middles) {
+            for (long k = middle - 40; k <= middle + 40; k++) {
+                TrimCodes codes = new TrimCodes();
+                codes.limit((int) k);
+                long withoutHighestBit = Math.floorMod(k, 2147483648L);
+                CHECK.due("limit(" + (int) k + "); LIMIT", Probe.limit(codes), withoutHighestBit % 16);
+            }
+        }
+    }
+
+    private static void formerLimitDoesNotMatter() {
+        for (int former = 0; former < 16; former++) {
+            for (int k = 0; k < 16; k++) {
+                TrimCodes codes = new TrimCodes();
+                codes.limit(former);
+                codes.limit(k);
+                CHECK.due("limit(" + former + "), limit(" + k + "); LIMIT", Probe.limit(codes), k);
+            }
+        }
+    }
+
+    private static void zeroHasNoRoomForAny() {
+        int[] zeros = {0, 16, 32, -16, -2147483648, 2147483632};
+        for (int k : zeros) {
+            for (int n = 2; n <= 16; n++) {
+                TrimCodes codes = new TrimCodes();
+                codes.letters(n - 2);
+                codes.limit(k);
+                CHECK.due("N " + n + ", limit(" + k + "); least()", codes.least(), -1);
+            }
+        }
     }
 
     private static void restStays() {

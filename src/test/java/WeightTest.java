@@ -14,7 +14,11 @@ public final class WeightTest {
         for (int place : PLACES) {
             fourPlacesChange(place);
         }
+        lowestFiveBits();
+        inThisOrder();
+        wrapAroundLeavesTheNextAlone();
         laterOneStays();
+        setWhileThereIsNoRoom();
         restStays();
         CHECK.end();
     }
@@ -71,6 +75,54 @@ public final class WeightTest {
             long want = Oracle.levels(row, n, 15);
             CHECK.due("weight(" + place + ", ..), N " + n + "; least()", codes.least(), want);
         }
+    }
+
+    /** Each i of two rounds, with every bit above the fifth set or not. */
+    private static void lowestFiveBits() {
+        for (int i = 0; i < 32; i++) {
+            fourPlacesChange(i);
+            for (int bit = 5; bit < 32; bit++) {
+                TrimCodes codes = new TrimCodes();
+                codes.letters(14);
+                codes.limit(15);
+                codes.weight(i | 1 << bit, 9, 0, 0, 0);
+                CHECK.due("weight(" + (i | 1 << bit) + ", 9, 0, 0, 0); least()", codes.least(), i < 16 ? 9 : 0);
+            }
+        }
+    }
+
+    /** With N 2 the two places that count show two neighbours of a, b, c, d at a time. */
+    private static void inThisOrder() {
+        int[] places = {0, 31, 30, 29, 1, 28};
+        long[] due = {11, 110, 1100, 1000, 1, 0};
+        for (int i = 0; i < places.length; i++) {
+            TrimCodes codes = new TrimCodes();
+            codes.weight(places[i], 1, 10, 100, 1000);
+            CHECK.due("weight(" + places[i] + ", 1, 10, 100, 1000); least()", codes.least(), due[i]);
+        }
+    }
+
+    /** Of four letters that weigh 100 the last four places reach one, two or three. */
+    private static void wrapAroundLeavesTheNextAlone() {
+        int[] places = {28, 29, 30, 31, -4, -3, -2, -1, 2147483644, 2147483645, 2147483646, 2147483647};
+        long[] dueByReached = {800, 600, 300, 100};
+        for (int place : places) {
+            TrimCodes codes = new TrimCodes();
+            codes.letters(2);
+            codes.weight(0, 100, 100, 100, 100);
+            codes.weight(place, 0, 0, 0, 0);
+            CHECK.due("100 for four letters, weight(" + place + ", 0, 0, 0, 0); least()",
+                codes.least(), dueByReached[place & 3]);
+        }
+    }
+
+    private static void setWhileThereIsNoRoom() {
+        TrimCodes codes = new TrimCodes();
+        codes.limit(0);
+        codes.weight(0, 5, 7, 0, 0);
+        CHECK.due("limit(0), weight(0, 5, 7, 0, 0); least()", codes.least(), -1);
+        codes.limit(1);
+        CHECK.due("limit(0), weight(0, 5, 7, 0, 0), limit(1); least()", codes.least(), 12);
     }
 
     private static void laterOneStays() {
